@@ -129,7 +129,7 @@ public final class EchoParlour {
         return found == null || found.isDisputed ? NONE : number;
     }
 
-    /** Tells of a song: 0 its notes, 1 its strain, 2 its best score, 3 its plays that were over, 4 if it is disputed. */
+    /** Tells of a song: 0 how many notes, 1 its strain, 2 its best score, 3 its plays that were over, 4 disputed. */
     public int about(int song, int what) throws IndexOutOfBoundsException, IllegalArgumentException {
         Song asked = songAt(song);
         if (asked == null) {

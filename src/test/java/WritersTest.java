@@ -227,7 +227,7 @@ public final class WritersTest {
         earnedDue(y, "of a play that fell out", 0, 0, 0, 0, 0, 0);
     }
 
-    /** The song, its room, its singer and one claim are 7 calls; 250 plays are 500 more. */
+    /** The song, its room, its singer and one claim are 8 calls; 250 plays are 500 more, so the answers end at 511. */
     private static void earnsOfAsManyPlaysAsMayBe() {
         EchoParlour x = new EchoParlour();
         Check.makeSong(x, "t", 1);
