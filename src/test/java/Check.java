@@ -57,6 +57,28 @@ final class Check {
         return x.find();
     }
 
+    /** Lays so many words of one syllable each under the draft. */
+    static void layWords(EchoParlour x, int words) {
+        for (int i = 0; i < words; i++) {
+            x.letter('a');
+            x.word();
+        }
+    }
+
+    /** Adds so many notes of pitch 0, one beat and a breath each to the draft. */
+    static void addNotes(EchoParlour x, int notes) {
+        for (int i = 0; i < notes; i++) {
+            x.note(0, 1, true);
+        }
+    }
+
+    /** A room in which that singer sings; returns its number. */
+    static int makeStage(EchoParlour x, int singer) {
+        int room = x.room();
+        due("who comes to a new room sings", x.come(room, singer), EchoParlour.NONE);
+        return room;
+    }
+
     /** A song of notes {pitch, beats, 1 for a breath behind it}, one syllable each. */
     static int makeSong(EchoParlour x, String title, int[][] notes) {
         for (int[] note : notes) {
